@@ -479,8 +479,8 @@ public final class HangingKeys {
             wears.set(key, 0);
         }
 
-        void wearDown(int key, int closings) {
-            wears.add(key, closings);
+        void wearDown(int key) {
+            wears.add(key, 1);
         }
 
         void endLife(int goneKeys, int goneBoxes) {
@@ -792,13 +792,13 @@ public final class HangingKeys {
         private void wrapKey(int key) {
             int parent = tree.parentOf(key);
             wraps.add(key, tree.makeOf(key), parent, tree.makeOf(parent));
-            tree.wearDown(parent, 1);
+            tree.wearDown(parent);
         }
 
         private void wrapBox(int box) {
             int key = tree.keyOfBox(box);
             wraps.add(NONE, box, key, tree.makeOf(key));
-            tree.wearDown(key, 1);
+            tree.wearDown(key);
         }
 
         int stepOfWay(int box, int step) {

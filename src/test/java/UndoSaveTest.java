@@ -10,6 +10,7 @@ final class UndoSaveTest {
         whatUndoLeaves();
         save();
         saveKeepsEverything();
+        twoHouses();
         restore();
         check.end();
     }
@@ -176,6 +177,34 @@ final class UndoSaveTest {
         x.throwKey(0);
         x.undo();
         check.holds("undo after restore", before.equals(StateText.of(x)));
+    }
+
+    /** Two houses whose keys, boxes and wraps have the same numbers, and nothing else in common. */
+    private static void twoHouses() {
+        check.part("promises 24 to 26, two houses");
+        HangingKeys x = new HangingKeys();
+        x.save(0);
+        Check.write(x, "k-;k0;k1;b2;b2;r1;c0@0;c1@1;c2@0");
+        x.carryOut();
+        String first = StateText.of(x);
+        x.save(1);
+        x.restore(0);
+        Check.write(x, "k-;r0;k-;k0;b1;b0;b2;r0;r2;c4@2");
+        x.carryOut();
+        String second = StateText.of(x);
+        x.save(0);
+        check.holds("they differ", !first.equals(second));
+        check.due("restore(1)", x.restore(1), 3);
+        check.holds("the first", first.equals(StateText.of(x)));
+        check.due("restore(0)", x.restore(0), 3);
+        check.holds("the second", second.equals(StateText.of(x)));
+        check.due("undo()", x.undo(), 4);
+        check.holds("the first again", first.equals(StateText.of(x)));
+        check.due("undo()", x.undo(), 3);
+        check.holds("the second again", second.equals(StateText.of(x)));
+        x.throwKey(0);
+        check.due("restore(1)", x.restore(1), 3);
+        check.holds("the first once more", first.equals(StateText.of(x)));
     }
 
     private static void restore() {
