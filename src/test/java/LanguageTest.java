@@ -129,16 +129,19 @@ final class LanguageTest {
     }
 
     private static void methodsAreShort(String source) {
-        int start = 0;
+        int start = -1;
+        int methods = 0;
         String[] lines = source.split("\n");
         for (int i = 0; i < lines.length; i++) {
             if (lines[i].matches(" {4,8}(public |private )?(static )?(\\w+ )?\\w+\\(.*\\) \\{")) {
                 start = i;
-            } else if (lines[i].matches(" {4,8}\\}")) {
-                check.holds("the method at line " + (start + 1) + " is short", i - start <= 60 || start == 0
-                        || lines[start].isBlank());
+            } else if (start >= 0 && lines[i].matches(" {4,8}\\}")) {
+                check.holds("short: " + lines[start].trim(), i - start < 60);
+                methods++;
+                start = -1;
             }
         }
+        check.holds("the methods are found: " + methods, methods > 25);
     }
 
     /** What the calls make is counted in bytes: only a slot that is used for the first time makes anything. */
