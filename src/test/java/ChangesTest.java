@@ -26,7 +26,7 @@ final class ChangesTest {
 
     private static void newObject() {
         check.part("promise 1");
-        HangingKeys x = new HangingKeys();
+        Recorded x = new Recorded();
         for (int what = 0; what < 12; what++) {
             check.due("count(" + what + ")", x.count(what), what == 7 ? 8 : 0);
         }
@@ -39,7 +39,7 @@ final class ChangesTest {
 
     private static void wear() {
         check.part("promise 2");
-        HangingKeys x = new HangingKeys();
+        Recorded x = new Recorded();
         check.due("wear(1)", x.wear(1), BAD_VALUE);
         check.due("wear(31)", x.wear(31), BAD_VALUE);
         check.due("wear(0)", x.wear(0), BAD_VALUE);
@@ -56,7 +56,7 @@ final class ChangesTest {
 
     private static void key() {
         check.part("promise 3");
-        HangingKeys x = new HangingKeys();
+        Recorded x = new Recorded();
         check.due("key(0)", x.key(0), NO_SUCH);
         check.due("key(-1)", x.key(-1), NO_SUCH);
         check.due("key(-7)", x.key(-7), NO_SUCH);
@@ -88,7 +88,7 @@ final class ChangesTest {
 
     private static void keyAtTheLimits() {
         check.part("promise 3, limits");
-        HangingKeys x = new HangingKeys();
+        Recorded x = new Recorded();
         x.key(NONE);
         for (int i = 1; i < 9; i++) {
             check.due("key(0)", x.key(0), i);
@@ -107,7 +107,7 @@ final class ChangesTest {
 
     private static void box() {
         check.part("promise 4");
-        HangingKeys x = new HangingKeys();
+        Recorded x = new Recorded();
         check.due("box(0)", x.box(0), NO_SUCH);
         check.due("box(NONE)", x.box(NONE), NO_SUCH);
         x.key(NONE);
@@ -135,7 +135,7 @@ final class ChangesTest {
 
     private static void copy() {
         check.part("promise 5");
-        HangingKeys x = new HangingKeys();
+        Recorded x = new Recorded();
         check.due("copy(0, 0)", x.copy(0, 0), NO_SUCH);
         check.due("copy(0, 9): no such wrap first", x.copy(0, 9), NO_SUCH);
         x.key(NONE);
@@ -163,7 +163,7 @@ final class ChangesTest {
 
     private static void renew() {
         check.part("promise 6");
-        HangingKeys x = new HangingKeys();
+        Recorded x = new Recorded();
         check.due("renew(0)", x.renew(0), NO_SUCH);
         check.due("renew(NONE)", x.renew(NONE), NO_SUCH);
         x.key(NONE);
@@ -193,7 +193,7 @@ final class ChangesTest {
 
     private static void renewLacks() {
         check.part("promise 6, what it needs");
-        HangingKeys x = new HangingKeys();
+        Recorded x = new Recorded();
         x.wear(3);
         x.key(NONE);
         x.key(0);
@@ -221,7 +221,7 @@ final class ChangesTest {
 
     private static void renewInTheMiddle() {
         check.part("promise 6, order of the wraps");
-        HangingKeys x = new HangingKeys();
+        Recorded x = new Recorded();
         x.key(NONE);
         x.key(0);
         x.box(1);
@@ -244,7 +244,7 @@ final class ChangesTest {
 
     private static void throwKey() {
         check.part("promise 7");
-        HangingKeys x = new HangingKeys();
+        Recorded x = new Recorded();
         check.due("throwKey(0)", x.throwKey(0), NO_SUCH);
         x.key(NONE);
         x.key(0);
@@ -284,7 +284,7 @@ final class ChangesTest {
 
     private static void throwKeyLacks() {
         check.part("promise 7, what it needs");
-        HangingKeys x = new HangingKeys();
+        Recorded x = new Recorded();
         x.key(NONE);
         x.key(0);
         x.key(1);
@@ -310,7 +310,7 @@ final class ChangesTest {
 
     private static void throwRoot() {
         check.part("promise 7, a root");
-        HangingKeys x = new HangingKeys();
+        Recorded x = new Recorded();
         x.key(NONE);
         x.key(0);
         x.box(1);
@@ -328,7 +328,7 @@ final class ChangesTest {
 
     private static void throwBox() {
         check.part("promise 8");
-        HangingKeys x = new HangingKeys();
+        Recorded x = new Recorded();
         check.due("throwBox(0)", x.throwBox(0), NO_SUCH);
         x.key(NONE);
         x.key(0);
@@ -359,7 +359,7 @@ final class ChangesTest {
 
     private static void throwBoxLacks() {
         check.part("promise 8, what it needs");
-        HangingKeys x = new HangingKeys();
+        Recorded x = new Recorded();
         x.key(NONE);
         x.key(0);
         x.box(1);
@@ -376,7 +376,7 @@ final class ChangesTest {
     /** A root with eight boxes, made anew until there are 120 wraps. */
     private static void fullOfWraps() {
         check.part("120 wraps");
-        HangingKeys x = new HangingKeys();
+        Recorded x = new Recorded();
         x.key(NONE);
         for (int b = 0; b < 8; b++) {
             x.box(0);
@@ -406,7 +406,7 @@ final class ChangesTest {
         check.due("throwKey(0): needs no wrap", x.throwKey(0), 0);
         check.due("undo()", x.undo() >= 0 ? 1 : 0, 1);
 
-        x = new HangingKeys();
+        x = new Recorded();
         x.wear(30);
         x.key(NONE);
         x.key(0);
@@ -431,7 +431,7 @@ final class ChangesTest {
 
     private static void numbersStay() {
         check.part("numbers stay");
-        HangingKeys x = new HangingKeys();
+        Recorded x = new Recorded();
         x.key(NONE);
         x.key(0);
         x.box(1);
@@ -442,7 +442,7 @@ final class ChangesTest {
         check.due("key of box 0", x.ofBox(0, 0), 1);
     }
 
-    private static void wrapIs(HangingKeys x, int wrap, int key, int makeOrBox, int closer, int closerMake,
+    private static void wrapIs(Recorded x, int wrap, int key, int makeOrBox, int closer, int closerMake,
             int inHouse, int places) {
         int[] dues = {key, makeOrBox, closer, closerMake, inHouse, places};
         for (int what = 0; what < 6; what++) {

@@ -52,18 +52,9 @@ final class Check {
         return set;
     }
 
-    /** Puts a text of any length, piece by piece, and answers what the last put answered. */
-    static int write(HangingKeys x, String text) {
-        int answer = 0;
-        for (int from = 0; from < text.length(); from += 8) {
-            answer = x.put(number(text.substring(from, Math.min(from + 8, text.length()))));
-        }
-        return answer;
-    }
-
     static int faultOf(String text) {
-        HangingKeys x = new HangingKeys();
-        write(x, text);
+        Recorded x = new Recorded();
+        x.write(text);
         return x.fault();
     }
 }

@@ -16,8 +16,8 @@ final class OpeningTest {
     }
 
     /** A chain 0 <- 1 <- 2 with box 0 under 2: wraps 0 (key 1), 1 (key 2), 2 (box 0). */
-    private static HangingKeys chain() {
-        HangingKeys x = new HangingKeys();
+    private static Recorded chain() {
+        Recorded x = new Recorded();
         x.key(NONE);
         x.key(0);
         x.key(1);
@@ -27,7 +27,7 @@ final class OpeningTest {
 
     private static void canOpenErrors() {
         check.part("promise 13, errors");
-        HangingKeys x = chain();
+        Recorded x = chain();
         check.due("canOpen(1, 0)", x.canOpen(1, 0), NO_SUCH);
         check.due("canOpen(-1, 0)", x.canOpen(-1, 0), NO_SUCH);
         check.due("canOpen(1, 8): no such box first", x.canOpen(1, 8), NO_SUCH);
@@ -42,7 +42,7 @@ final class OpeningTest {
     private static void canOpenByCopies() {
         check.part("promise 13");
         // Throwing away makes the root anew, and no copy helps without the make that closed it.
-        HangingKeys y = chain();
+        Recorded y = chain();
         y.wear(30);
         y.copy(2, 0);
         y.copy(1, 1);
@@ -55,7 +55,7 @@ final class OpeningTest {
         check.due("thrown away", y.canOpen(0, 7), 0);
 
         // Copies lead to an old make of key 1 as long as the root that closes them is in the safe.
-        HangingKeys x = chain();
+        Recorded x = chain();
         x.copy(1, 0);
         x.copy(0, 1);
         x.renew(1);
@@ -67,7 +67,7 @@ final class OpeningTest {
 
     private static void canHaveErrors() {
         check.part("promise 14, errors");
-        HangingKeys x = chain();
+        Recorded x = chain();
         check.due("canHave(3, 0, 0)", x.canHave(3, 0, 0), NO_SUCH);
         check.due("canHave(-1, 0, 0)", x.canHave(-1, 0, 0), NO_SUCH);
         check.due("canHave(NONE, 0, 0)", x.canHave(NONE, 0, 0), NO_SUCH);
@@ -85,7 +85,7 @@ final class OpeningTest {
 
     private static void canHaveOldMakes() {
         check.part("promise 14");
-        HangingKeys x = chain();
+        Recorded x = chain();
         x.copy(0, 0);
         x.renew(1);
         x.copy(3, 1);
@@ -112,7 +112,7 @@ final class OpeningTest {
     /** The wrap that gives the closer may have been made after the wrap that it closes. */
     private static void closedByAnOldMakeAndWrappedLater() {
         check.part("promises 13 and 14, order of the wraps");
-        HangingKeys x = chain();
+        Recorded x = chain();
         x.copy(2, 0);
         x.renew(1);
         // wraps: 3 holds key 1 make 1, 4 holds key 2 make 0 (closed by key 1 make 1).
@@ -132,7 +132,7 @@ final class OpeningTest {
 
     private static void way() {
         check.part("promise 15");
-        HangingKeys x = chain();
+        Recorded x = chain();
         x.box(0);
         check.due("way(2, 0)", x.way(2, 0), NO_SUCH);
         check.due("way(-1, 0)", x.way(-1, 0), NO_SUCH);
@@ -153,7 +153,7 @@ final class OpeningTest {
         wayIs(x, 0, 10, 8, 9);
     }
 
-    private static void wayIs(HangingKeys x, int box, int... wraps) {
+    private static void wayIs(Recorded x, int box, int... wraps) {
         for (int step = 0; step < wraps.length; step++) {
             check.due("way(" + box + ", " + step + ")", x.way(box, step), wraps[step]);
         }
@@ -163,7 +163,7 @@ final class OpeningTest {
 
     private static void leaks() {
         check.part("promise 16");
-        HangingKeys x = chain();
+        Recorded x = chain();
         x.key(NONE);
         x.box(3);
         x.box(0);
@@ -191,7 +191,7 @@ final class OpeningTest {
 
     private static void leaksByOldRoots() {
         check.part("promise 16, old makes and roots that are not live");
-        HangingKeys x = new HangingKeys();
+        Recorded x = new Recorded();
         x.key(NONE);
         x.box(0);
         x.box(0);

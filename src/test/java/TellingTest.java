@@ -13,8 +13,8 @@ final class TellingTest {
     }
 
     /** 0 <- 1 <- 3, 0 <- 2, 4; boxes 0 and 2 under 1, 1 under 0, 3 under 3. */
-    private static HangingKeys house() {
-        HangingKeys x = new HangingKeys();
+    private static Recorded house() {
+        Recorded x = new Recorded();
         x.key(NONE);
         x.key(0);
         x.key(0);
@@ -29,7 +29,7 @@ final class TellingTest {
 
     private static void ofKey() {
         check.part("promise 9");
-        HangingKeys x = house();
+        Recorded x = house();
         int[] parents = {NONE, 0, 0, 1, NONE};
         int[] wears = {3, 3, 0, 1, 0};
         int[] keySets = {Check.set(1, 2), Check.set(3), 0, 0, 0};
@@ -70,7 +70,7 @@ final class TellingTest {
 
     private static void ofBox() {
         check.part("promise 10");
-        HangingKeys x = house();
+        Recorded x = house();
         int[] keys = {1, 0, 1, 3};
         for (int b = 0; b < 4; b++) {
             check.due("ofBox(" + b + ", 0)", x.ofBox(b, 0), keys[b]);
@@ -86,7 +86,7 @@ final class TellingTest {
         check.due("ofBox(MAX, 0)", x.ofBox(Integer.MAX_VALUE, 0), NO_SUCH);
 
         // Throwing a box away makes the root anew, so that no copy helps.
-        HangingKeys y = new HangingKeys();
+        Recorded y = new Recorded();
         y.key(NONE);
         y.key(0);
         y.box(1);
@@ -102,7 +102,7 @@ final class TellingTest {
 
     private static void wrap() {
         check.part("promise 11");
-        HangingKeys x = house();
+        Recorded x = house();
         int[][] dues = {
             {1, 0, 0, 0, 1, 0}, {2, 0, 0, 0, 1, 0}, {3, 0, 1, 0, 1, 0}, {NONE, 0, 1, 0, 1, 0},
             {NONE, 1, 0, 0, 1, 0}, {NONE, 2, 1, 0, 1, 0}, {NONE, 3, 3, 0, 1, 0}
@@ -131,7 +131,7 @@ final class TellingTest {
 
     private static void count() {
         check.part("promise 12");
-        HangingKeys x = house();
+        Recorded x = house();
         check.due("keys", x.count(0), 5);
         check.due("live keys", x.count(1), 5);
         check.due("boxes", x.count(2), 4);
@@ -170,8 +170,8 @@ final class TellingTest {
 
     private static void countOfPadAndHistory() {
         check.part("promise 12, pad and history");
-        HangingKeys x = new HangingKeys();
-        Check.write(x, "k-;b0");
+        Recorded x = new Recorded();
+        x.write("k-;b0");
         check.due("pad", x.count(10), 5);
         check.due("changes", x.count(11), 0);
         x.carryOut();

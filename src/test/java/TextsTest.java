@@ -18,7 +18,7 @@ final class TextsTest {
 
     private static void put() {
         check.part("promise 20");
-        HangingKeys x = new HangingKeys();
+        Recorded x = new Recorded();
         check.due("put(0)", x.put(0), BAD_VALUE);
         check.due("put(space)", x.put(32), BAD_VALUE);
         check.due("put(127)", x.put(127), BAD_VALUE);
@@ -44,8 +44,8 @@ final class TextsTest {
 
     private static void putTooMany() {
         check.part("promise 20, 60 characters");
-        HangingKeys x = new HangingKeys();
-        check.due("56", Check.write(x, "k-;k-;k-;k-;k-;k-;k-;k-;k-;k-;k-;k-;k-;k-;k-;k-;k-;k-;k-"), 56);
+        Recorded x = new Recorded();
+        check.due("56", x.write("k-;k-;k-;k-;k-;k-;k-;k-;k-;k-;k-;k-;k-;k-;k-;k-;k-;k-;k-"), 56);
         check.due("put(5 more)", x.put(Check.number(";k-;k")), TOO_MANY);
         check.due("put(8 bad ones): the value first", x.put(-1), BAD_VALUE);
         check.due("length", x.count(10), 56);
@@ -61,13 +61,13 @@ final class TextsTest {
 
     private static void wipe() {
         check.part("promise 21");
-        HangingKeys x = new HangingKeys();
+        Recorded x = new Recorded();
         check.due("wipe()", x.wipe(), 0);
-        Check.write(x, "k-;k0;b1");
+        x.write("k-;k0;b1");
         check.due("wipe()", x.wipe(), 8);
         check.due("wipe()", x.wipe(), 0);
         check.due("fault()", x.fault(), 0);
-        Check.write(x, "k");
+        x.write("k");
         check.due("what was wiped plays no part", x.fault(), 1);
         check.due("wipe is no change", x.count(11), 0);
     }
@@ -105,8 +105,8 @@ final class TextsTest {
         for (int i = 0; i < texts.length; i++) {
             check.due("fault of '" + texts[i] + "'", Check.faultOf(texts[i]), dues[i]);
         }
-        HangingKeys x = new HangingKeys();
-        Check.write(x, "k-;q");
+        Recorded x = new Recorded();
+        x.write("k-;q");
         check.due("fault()", x.fault(), 3);
         check.due("fault() again: it stays", x.fault(), 3);
         check.due("length", x.count(10), 4);
@@ -114,9 +114,9 @@ final class TextsTest {
 
     private static void carryOut() {
         check.part("promise 23");
-        HangingKeys x = new HangingKeys();
+        Recorded x = new Recorded();
         check.due("carryOut()", x.carryOut(), BAD_TEXT);
-        Check.write(x, "k-;k0;k0;b1;c2@1;r1;b2;y0;x2");
+        x.write("k-;k0;k0;b1;c2@1;r1;b2;y0;x2");
         check.due("carryOut()", x.carryOut(), 9);
         check.due("length", x.count(10), 0);
         check.due("keys", x.count(0), 3);
@@ -127,7 +127,7 @@ final class TextsTest {
         check.due("make of 0", x.ofKey(0, 2), 2);
         check.due("make of 1", x.ofKey(1, 2), 2);
         check.due("make of 2", x.ofKey(2, 2), 0);
-        Check.write(x, "b1;q");
+        x.write("b1;q");
         check.due("carryOut(): bad text", x.carryOut(), BAD_TEXT);
         check.due("the pad stays", x.count(10), 4);
         check.due("nothing is carried out", x.count(2), 2);
@@ -136,36 +136,36 @@ final class TextsTest {
 
     private static void carryOutUpToAnError() {
         check.part("promise 23, up to an error");
-        HangingKeys x = new HangingKeys();
-        Check.write(x, "k-;k0;k7;b0");
+        Recorded x = new Recorded();
+        x.write("k-;k0;k7;b0");
         check.due("carryOut()", x.carryOut(), 2);
         check.due("keys", x.count(0), 2);
         check.due("boxes", x.count(2), 0);
         check.due("length", x.count(10), 0);
-        Check.write(x, "b119");
+        x.write("b119");
         check.due("carryOut()", x.carryOut(), 0);
         check.due("also a change", x.count(11), 2);
         check.due("undo()", x.undo(), 1);
         check.due("keys", x.count(0), 2);
-        Check.write(x, "c0@0;c0@0;c0@1");
+        x.write("c0@0;c0@0;c0@1");
         check.due("carryOut()", x.carryOut(), 1);
         check.due("copies", x.count(6), 1);
-        Check.write(x, "r1;x1;x1");
+        x.write("r1;x1;x1");
         check.due("carryOut()", x.carryOut(), 2);
         check.due("live keys", x.count(1), 1);
-        Check.write(x, "k-;k-;k-;k-;k-;k-;k-;k-;k-;k-;k-;k-;k-;k-;k-;k-;k-;k-;k-;k-");
+        x.write("k-;k-;k-;k-;k-;k-;k-;k-;k-;k-;k-;k-;k-;k-;k-;k-;k-;k-;k-;k-");
         check.due("carryOut(): 20 orders, room for 18 keys", x.carryOut(), 18);
         check.due("keys", x.count(0), 20);
-        Check.write(x, "r0;r0;r0;r0;r0;r0;r0;r0;r0;r0;r0;r0;r0;r0;r0;r0;r0;r0;r0;r0");
+        x.write("r0;r0;r0;r0;r0;r0;r0;r0;r0;r0;r0;r0;r0;r0;r0;r0;r0;r0;r0;r0");
         check.due("carryOut(): 20 orders", x.carryOut(), 20);
         check.due("make of 0", x.ofKey(0, 2), 21);
     }
 
     private static void carryOutIsOneChange() {
         check.part("promise 23, one change");
-        HangingKeys x = new HangingKeys();
+        Recorded x = new Recorded();
         x.wear(9);
-        Check.write(x, "k-;k0;k0;k0;k0;k0;k0;k0;k0;b0");
+        x.write("k-;k0;k0;k0;k0;k0;k0;k0;k0;b0");
         check.due("carryOut()", x.carryOut(), 10);
         check.due("changes", x.count(11), 2);
         check.due("undo()", x.undo(), 1);

@@ -15,8 +15,8 @@ final class UndoSaveTest {
         check.end();
     }
 
-    private static HangingKeys house() {
-        HangingKeys x = new HangingKeys();
+    private static Recorded house() {
+        Recorded x = new Recorded();
         x.key(NONE);
         x.key(0);
         x.box(1);
@@ -27,7 +27,7 @@ final class UndoSaveTest {
 
     private static void undoOfEachChange() {
         check.part("promise 24");
-        HangingKeys x = house();
+        Recorded x = house();
         String before = StateText.of(x);
         for (int change = 0; change < 9; change++) {
             x.save(1);
@@ -41,7 +41,7 @@ final class UndoSaveTest {
         }
     }
 
-    private static int change(HangingKeys x, int change) {
+    private static int change(Recorded x, int change) {
         switch (change) {
             case 0: return x.wear(9);
             case 1: return x.key(0);
@@ -51,7 +51,7 @@ final class UndoSaveTest {
             case 5: return x.throwKey(1);
             case 6: return x.throwBox(1);
             case 7:
-                Check.write(x, "r0;k-;y0");
+                x.write("r0;k-;y0");
                 return x.carryOut();
             default: return x.restore(1);
         }
@@ -59,7 +59,7 @@ final class UndoSaveTest {
 
     private static void undoAtMostSix() {
         check.part("promise 24, six states");
-        HangingKeys x = new HangingKeys();
+        Recorded x = new Recorded();
         check.due("undo()", x.undo(), NOT_POSSIBLE);
         for (int wear = 10; wear < 20; wear++) {
             x.wear(wear);
@@ -89,7 +89,7 @@ final class UndoSaveTest {
 
     private static void errorsRecordNothing() {
         check.part("promise 24, errors");
-        HangingKeys x = house();
+        Recorded x = house();
         for (int i = 0; i < 8; i++) {
             x.wear(8);
         }
@@ -116,10 +116,10 @@ final class UndoSaveTest {
 
     private static void whatUndoLeaves() {
         check.part("promise 24, pad and slots");
-        HangingKeys x = new HangingKeys();
+        Recorded x = new Recorded();
         x.key(NONE);
         x.save(0);
-        Check.write(x, "k0;b0");
+        x.write("k0;b0");
         x.wear(12);
         x.undo();
         check.due("the pad stays", x.count(10), 5);
@@ -133,7 +133,7 @@ final class UndoSaveTest {
 
     private static void save() {
         check.part("promise 25");
-        HangingKeys x = new HangingKeys();
+        Recorded x = new Recorded();
         check.due("save(-1)", x.save(-1), BAD_VALUE);
         check.due("save(2)", x.save(2), BAD_VALUE);
         check.due("save(MIN)", x.save(Integer.MIN_VALUE), BAD_VALUE);
@@ -154,7 +154,7 @@ final class UndoSaveTest {
 
     private static void saveKeepsEverything() {
         check.part("promises 25 and 26, everything");
-        HangingKeys x = house();
+        Recorded x = house();
         x.wear(5);
         x.throwBox(0);
         x.copy(4, 2);
@@ -166,7 +166,7 @@ final class UndoSaveTest {
         x.box(1);
         x.throwKey(1);
         x.copy(x.count(4) - 1, 1);
-        Check.write(x, "k-");
+        x.write("k-");
         check.due("restore(0)", x.restore(0), 2);
         check.holds("all as it was saved", before.equals(StateText.of(x)));
         check.due("the pad stays", x.count(10), 2);
@@ -182,14 +182,14 @@ final class UndoSaveTest {
     /** Two houses whose keys, boxes and wraps have the same numbers, and nothing else in common. */
     private static void twoHouses() {
         check.part("promises 24 to 26, two houses");
-        HangingKeys x = new HangingKeys();
+        Recorded x = new Recorded();
         x.save(0);
-        Check.write(x, "k-;k0;k1;b2;b2;r1;c0@0;c1@1;c2@0");
+        x.write("k-;k0;k1;b2;b2;r1;c0@0;c1@1;c2@0");
         x.carryOut();
         String first = StateText.of(x);
         x.save(1);
         x.restore(0);
-        Check.write(x, "k-;r0;k-;k0;b1;b0;b2;r0;r2;c4@2");
+        x.write("k-;r0;k-;k0;b1;b0;b2;r0;r2;c4@2");
         x.carryOut();
         String second = StateText.of(x);
         x.save(0);
@@ -209,7 +209,7 @@ final class UndoSaveTest {
 
     private static void restore() {
         check.part("promise 26");
-        HangingKeys x = new HangingKeys();
+        Recorded x = new Recorded();
         check.due("restore(-1)", x.restore(-1), BAD_VALUE);
         check.due("restore(2)", x.restore(2), BAD_VALUE);
         check.due("restore(0)", x.restore(0), NOT_POSSIBLE);

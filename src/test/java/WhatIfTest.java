@@ -13,8 +13,8 @@ final class WhatIfTest {
     }
 
     /** 0 <- 1 <- 3, 0 <- 2; boxes 0 under 1, 1 under 3, 2 under 2, 3 under 0. */
-    private static HangingKeys house() {
-        HangingKeys x = new HangingKeys();
+    private static Recorded house() {
+        Recorded x = new Recorded();
         x.key(NONE);
         x.key(0);
         x.key(0);
@@ -28,7 +28,7 @@ final class WhatIfTest {
 
     private static void lostBy() {
         check.part("promise 17");
-        HangingKeys x = house();
+        Recorded x = house();
         check.due("lostBy(0)", x.lostBy(0), Check.set(0, 1, 2, 3));
         check.due("lostBy(1)", x.lostBy(1), Check.set(0, 1));
         check.due("lostBy(2)", x.lostBy(2), Check.set(2));
@@ -48,7 +48,7 @@ final class WhatIfTest {
 
     private static void throwingMakes() {
         check.part("promise 18");
-        HangingKeys x = house();
+        Recorded x = house();
         check.due("throwingMakes(2, 0)", x.throwingMakes(2, 0), BAD_VALUE);
         check.due("throwingMakes(-1, 0)", x.throwingMakes(-1, 0), BAD_VALUE);
         check.due("throwingMakes(2, 9): the kind first", x.throwingMakes(2, 9), BAD_VALUE);
@@ -80,7 +80,7 @@ final class WhatIfTest {
 
     private static void throwingMakesPastTheLimit() {
         check.part("promise 18, past 120 wraps");
-        HangingKeys x = new HangingKeys();
+        Recorded x = new Recorded();
         x.key(NONE);
         for (int b = 0; b < 8; b++) {
             x.box(0);
@@ -97,7 +97,7 @@ final class WhatIfTest {
 
     private static void mostWorn() {
         check.part("promise 19");
-        HangingKeys x = new HangingKeys();
+        Recorded x = new Recorded();
         check.due("mostWorn(0)", x.mostWorn(0), NONE);
         check.due("mostWorn(1)", x.mostWorn(1), NONE);
         check.due("mostWorn(2)", x.mostWorn(2), BAD_VALUE);
