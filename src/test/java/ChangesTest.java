@@ -68,8 +68,8 @@ final class ChangesTest {
         check.due("key(3)", x.key(3), NO_SUCH);
         check.due("key(MAX)", x.key(Integer.MAX_VALUE), NO_SUCH);
         check.due("key(32)", x.key(32), NO_SUCH);
-        wrapIs(x, 0, 1, 0, 0, 0, 1, 0);
-        wrapIs(x, 1, 2, 0, 1, 0, 1, 0);
+        check.wrapIs(x, 0, 1, 0, 0, 0, 1, 0);
+        check.wrapIs(x, 1, 2, 0, 1, 0, 1, 0);
         check.due("wear of 0", x.ofKey(0, 3), 1);
         check.due("wear of 1", x.ofKey(1, 3), 1);
         check.due("wear of 2", x.ofKey(2, 3), 0);
@@ -80,7 +80,7 @@ final class ChangesTest {
         x.wear(8);
         x.renew(1);
         check.due("key(1): a wrap of the latest makes", x.key(1), 4);
-        wrapIs(x, x.count(4) - 1, 4, 0, 1, 1, 1, 0);
+        check.wrapIs(x, x.count(4) - 1, 4, 0, 1, 1, 1, 0);
         x.throwKey(1);
         check.due("key(1) not live", x.key(1), NO_SUCH);
         check.due("key(2) not live", x.key(2), NO_SUCH);
@@ -115,7 +115,7 @@ final class ChangesTest {
         check.due("box(NONE)", x.box(NONE), NO_SUCH);
         for (int i = 0; i < 8; i++) {
             check.due("box(0)", x.box(0), i);
-            wrapIs(x, i, NONE, i, 0, 0, 1, 0);
+            check.wrapIs(x, i, NONE, i, 0, 0, 1, 0);
         }
         check.due("wear", x.ofKey(0, 3), 8);
         check.due("box(0) worn", x.box(0), NOT_POSSIBLE);
@@ -173,15 +173,15 @@ final class ChangesTest {
         x.key(0);
         x.box(0);
         x.key(0);
-        wrapIs(x, 0, NONE, 0, 0, 1, 1, 0);
+        check.wrapIs(x, 0, NONE, 0, 0, 1, 1, 0);
         check.due("renew(0)", x.renew(0), 4);
         for (int w = 0; w < 4; w++) {
             check.due("old wrap " + w + " in the house", x.wrap(w, 4), 0);
         }
-        wrapIs(x, 4, 1, 0, 0, 2, 1, 0);
-        wrapIs(x, 5, 2, 0, 0, 2, 1, 0);
-        wrapIs(x, 6, NONE, 0, 0, 2, 1, 0);
-        wrapIs(x, 7, NONE, 1, 0, 2, 1, 0);
+        check.wrapIs(x, 4, 1, 0, 0, 2, 1, 0);
+        check.wrapIs(x, 5, 2, 0, 0, 2, 1, 0);
+        check.wrapIs(x, 6, NONE, 0, 0, 2, 1, 0);
+        check.wrapIs(x, 7, NONE, 1, 0, 2, 1, 0);
         check.due("wear of 0", x.ofKey(0, 3), 4);
         check.due("wear of 1", x.ofKey(1, 3), 0);
         check.due("make of 1", x.ofKey(1, 2), 0);
@@ -230,14 +230,14 @@ final class ChangesTest {
         x.box(0);
         check.due("renew(1)", x.renew(1), 3);
         check.due("wraps", x.count(4), 8);
-        wrapIs(x, 0, 1, 0, 0, 0, 0, 0);
-        wrapIs(x, 1, NONE, 0, 1, 0, 0, 0);
-        wrapIs(x, 2, 2, 0, 1, 0, 0, 0);
-        wrapIs(x, 3, NONE, 1, 2, 0, 1, 0);
-        wrapIs(x, 4, NONE, 2, 0, 0, 1, 0);
-        wrapIs(x, 5, 1, 1, 0, 0, 1, 0);
-        wrapIs(x, 6, 2, 0, 1, 1, 1, 0);
-        wrapIs(x, 7, NONE, 0, 1, 1, 1, 0);
+        check.wrapIs(x, 0, 1, 0, 0, 0, 0, 0);
+        check.wrapIs(x, 1, NONE, 0, 1, 0, 0, 0);
+        check.wrapIs(x, 2, 2, 0, 1, 0, 0, 0);
+        check.wrapIs(x, 3, NONE, 1, 2, 0, 1, 0);
+        check.wrapIs(x, 4, NONE, 2, 0, 0, 1, 0);
+        check.wrapIs(x, 5, 1, 1, 0, 0, 1, 0);
+        check.wrapIs(x, 6, 2, 0, 1, 1, 1, 0);
+        check.wrapIs(x, 7, NONE, 0, 1, 1, 1, 0);
         check.due("wear of 0", x.ofKey(0, 3), 3);
         check.due("wear of 1", x.ofKey(1, 3), 2);
     }
@@ -273,10 +273,10 @@ final class ChangesTest {
         for (int w = 0; w < 9; w++) {
             check.due("wrap " + w + " in the house", x.wrap(w, 4), w == 8 ? 1 : 0);
         }
-        wrapIs(x, 9, 1, 1, 0, 1, 1, 0);
-        wrapIs(x, 10, 4, 0, 0, 1, 1, 0);
-        wrapIs(x, 11, NONE, 0, 0, 1, 1, 0);
-        wrapIs(x, 12, NONE, 1, 1, 1, 1, 0);
+        check.wrapIs(x, 9, 1, 1, 0, 1, 1, 0);
+        check.wrapIs(x, 10, 4, 0, 0, 1, 1, 0);
+        check.wrapIs(x, 11, NONE, 0, 0, 1, 1, 0);
+        check.wrapIs(x, 12, NONE, 1, 1, 1, 1, 0);
         check.due("the copy stands", x.wrap(1, 5), 2);
         check.due("throwKey(2) again", x.throwKey(2), NO_SUCH);
         check.due("throwKey(3) went with it", x.throwKey(3), NO_SUCH);
@@ -345,10 +345,10 @@ final class ChangesTest {
         for (int w = 0; w < 5; w++) {
             check.due("wrap " + w + " in the house", x.wrap(w, 4), 0);
         }
-        wrapIs(x, 5, 1, 1, 0, 1, 1, 0);
-        wrapIs(x, 6, NONE, 2, 0, 1, 1, 0);
-        wrapIs(x, 7, 2, 0, 1, 1, 1, 0);
-        wrapIs(x, 8, NONE, 1, 1, 1, 1, 0);
+        check.wrapIs(x, 5, 1, 1, 0, 1, 1, 0);
+        check.wrapIs(x, 6, NONE, 2, 0, 1, 1, 0);
+        check.wrapIs(x, 7, 2, 0, 1, 1, 1, 0);
+        check.wrapIs(x, 8, NONE, 1, 1, 1, 1, 0);
         check.due("make of 2", x.ofKey(2, 2), 0);
         check.due("throwBox(2)", x.throwBox(2), 1);
         check.due("make of 0", x.ofKey(0, 2), 2);
@@ -440,13 +440,5 @@ final class ChangesTest {
         check.due("box(2)", x.box(2), 1);
         check.due("parent of 1", x.ofKey(1, 0), 0);
         check.due("key of box 0", x.ofBox(0, 0), 1);
-    }
-
-    private static void wrapIs(Recorded x, int wrap, int key, int makeOrBox, int closer, int closerMake,
-            int inHouse, int places) {
-        int[] dues = {key, makeOrBox, closer, closerMake, inHouse, places};
-        for (int what = 0; what < 6; what++) {
-            check.due("wrap(" + wrap + ", " + what + ")", x.wrap(wrap, what), dues[what]);
-        }
     }
 }

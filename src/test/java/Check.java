@@ -28,6 +28,12 @@ final class Check {
         due(what, got ? 1 : 0, 1);
     }
 
+    void wrapIs(Recorded x, int wrap, int... dues) {
+        for (int what = 0; what < dues.length; what++) {
+            due("wrap(" + wrap + ", " + what + ")", x.wrap(wrap, what), dues[what]);
+        }
+    }
+
     void end() {
         System.out.println(test + ": " + right + " right, " + wrong + " wrong");
         if (wrong != 0 || right == 0) {
