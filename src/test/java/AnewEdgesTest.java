@@ -58,6 +58,7 @@ final class AnewEdgesTest {
         boxAsMuchAsWearHangs();
         boxMoreThanWearHangs();
         boxMoreThanWearHangsFurtherUp();
+        boxMoreThanWearHangsFromTheLastKey();
         boxWornAbovePlaysNoPart();
         boxHelpsNoCopy();
         check.end();
@@ -656,6 +657,20 @@ final class AnewEdgesTest {
         check.due("throwBox(0): 3 hang from 0", x.throwBox(0), NOT_POSSIBLE);
         check.due("throwBox(1): 2 are left", x.throwBox(1), 2);
         check.due("throwBox(0)", x.throwBox(0), 3);
+    }
+
+    private static void boxMoreThanWearHangsFromTheLastKey() {
+        check.part("Promise 8, throwBox: NOT_POSSIBLE if one more than WEAR hang from its key: the last of 20 keys");
+        Recorded x = Houses.chain(20);
+        Houses.hangBoxes(x, 19, 4);
+        x.wear(2);
+        check.due("throwingMakes(1, 3)", x.throwingMakes(1, 3), NOT_POSSIBLE);
+        check.due("throwBox(3)", x.throwBox(3), NOT_POSSIBLE);
+        x.wear(3);
+        check.due("throwingMakes(1, 3)", x.throwingMakes(1, 3), 22);
+        check.due("throwBox(3)", x.throwBox(3), 22);
+        check.due("make of 19", x.ofKey(19, 2), 1);
+        check.due("wear of 19", x.ofKey(19, 3), 3);
     }
 
     private static void boxWornAbovePlaysNoPart() {

@@ -22,6 +22,7 @@ final class AskingEdgesTest {
         wrapNoSuch();
         wrapWhat();
         wrapTheLastOf120();
+        wrapTheLastOf120HoldsABox();
         wrapOfABox();
         wrapPlaces();
 
@@ -41,6 +42,7 @@ final class AskingEdgesTest {
         canHaveMake();
         canHavePlaces();
         canHaveNotYet();
+        canHaveTheLastOfTwenty();
 
         wayNoSuch();
         wayStep();
@@ -230,6 +232,27 @@ final class AskingEdgesTest {
         check.wrapIs(x, 119, 1, 0, 0, 119, 1, 0);
         check.wrapIs(x, 118, 1, 0, 0, 118, 0, 0);
         check.due("wrap(120, 0)", x.wrap(120, 0), NO_SUCH);
+    }
+
+    private static void wrapTheLastOf120HoldsABox() {
+        check.part("Promise 11, wrap: the last of 120 wraps holds box 2 and is closed by make 1 of key 1");
+        Recorded x = Houses.withWraps(116);
+        x.renew(1);
+        Houses.hangBoxes(x, 1, 3);
+        x.copy(119, 1);
+        check.due("wraps", x.count(4), 120);
+        check.wrapIs(x, 118, NONE, 1, 1, 1, 1, 0);
+        check.wrapIs(x, 119, NONE, 2, 1, 1, 1, 2);
+        check.due("canOpen(2, 0)", x.canOpen(2, 0), 1);
+        check.due("to be opened", x.count(9), Check.set(0, 1, 2));
+        check.due("way(2, 0)", x.way(2, 0), 116);
+        check.due("way(2, 1)", x.way(2, 1), 119);
+        check.due("in the house", x.count(5), 4);
+        check.due("copies", x.count(6), 1);
+        x.copy(116, 0);
+        check.due("leaks(0, 115, 3)", x.leaks(0, 115, 3), Check.set(2));
+        check.due("throwKey(0)", x.throwKey(0), 0);
+        check.due("in the house", x.count(5), 0);
     }
 
     private static void wrapOfABox() {
@@ -446,6 +469,27 @@ final class AskingEdgesTest {
         x.renew(1);
         check.due("canHave(1, 1, 0)", x.canHave(1, 1, 0), 1);
         check.due("canHave(1, 2, 7)", x.canHave(1, 2, 7), 0);
+    }
+
+    private static void canHaveTheLastOfTwenty() {
+        check.part("Promises 14 and 16, canHave and leaks: the last of 20 keys is a root");
+        Recorded x = new Recorded();
+        for (int root = 0; root < 20; root++) {
+            x.key(NONE);
+        }
+        check.due("canHave(19, 0, 0)", x.canHave(19, 0, 0), 1);
+        x.renew(19);
+        check.due("canHave(19, 0, 7)", x.canHave(19, 0, 7), 0);
+        check.due("canHave(19, 1, 0)", x.canHave(19, 1, 0), 1);
+        x.box(19);
+        check.due("canOpen(0, 0)", x.canOpen(0, 0), 1);
+        x.copy(0, 2);
+        check.due("leaks(19, 1, 4)", x.leaks(19, 1, 4), 1);
+        check.due("leaks(19, 0, 4)", x.leaks(19, 0, 4), 0);
+        check.due("leaks(20, 0, 4)", x.leaks(20, 0, 4), NO_SUCH);
+        x.throwKey(19);
+        check.due("canHave(19, 1, 7)", x.canHave(19, 1, 7), 0);
+        check.due("leaks(19, 1, 4): not live", x.leaks(19, 1, 4), 1);
     }
 
     // ---- promise 15

@@ -40,6 +40,7 @@ final class UndoSaveEdgesTest {
         restoreKeepsPadAndHistory();
         restoreTakesCopiesBack();
         restoreOfTheSame();
+        restoreOfAnotherHouse();
         check.end();
     }
 
@@ -535,5 +536,25 @@ final class UndoSaveEdgesTest {
         check.due("restore(0)", x.restore(0), 2);
         check.due("restore(0)", x.restore(0), 2);
         check.due("changes", x.count(11), 4);
+    }
+
+    private static void restoreOfAnotherHouse() {
+        check.part("Promises 24 to 26: everything, when houses with the same numbers and nothing else in common follow");
+        Recorded x = new Recorded();
+        x.save(0);
+        x.order("k-;k0;k1;b2;b1;r1;c0@0;c4@1");
+        String first = StateText.of(x);
+        x.save(1);
+        x.restore(0);
+        x.order("k-;k-;k1;b1;b0;b2;r1;c0@2;r2");
+        String second = StateText.of(x);
+        check.holds("they differ", !first.equals(second));
+        check.due("restore(1)", x.restore(1), 3);
+        check.holds("the first", StateText.of(x).equals(first));
+        check.due("undo()", x.undo(), 3);
+        check.holds("the second", StateText.of(x).equals(second));
+        check.due("undo()", x.undo(), 2);
+        check.due("undo()", x.undo(), 1);
+        check.holds("the first again", StateText.of(x).equals(first));
     }
 }
